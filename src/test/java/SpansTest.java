@@ -10,6 +10,7 @@ public final class SpansTest {
         sumsAndSigns(check);
         products(check);
         squares(check);
+        wideOperands(check);
         quotients(check);
         roots(check);
         ends(check);
@@ -84,6 +85,8 @@ public final class SpansTest {
         oneStep(check, 3, 0, 1, "1/3", "a-a", "b^2");
         oneStep(check, 0, 0, 1, "1/3", "a-a", "b^2");
         oneStep(check, 3, 0, 1, "1/3", "a-a", "b^4");
+        oneStep(check, 0, 1, 1, "1^2");
+        oneStep(check, 0, 1, 1, "(-1)^2");
         // At step 0 [-1, 0] and [0, 1].
         oneStep(check, 0, 0, 1, "-1/3", "a^2");
         oneStep(check, 0, 0, 1, "1/3", "a^2");
@@ -91,6 +94,29 @@ public final class SpansTest {
         later(check, 3, 4, -1, 1, "1/3", "a-a", "b^3");
         oneStep(check, 7, 32 << 7, 32 << 7, "2^5");
         oneStep(check, 7, -32 << 7, -32 << 7, "(-2)^5");
+    }
+
+    /** 3 as nine thirds, nine units wide, and 0 as three less, so that each corner counts somewhere. */
+    private static void wideOperands(Check check) {
+        wide(check, "b*b", 10, 9198, 9253);
+        wide(check, "b*-b", 10, -9253, -9198);
+        wide(check, "-b*b", 10, -9253, -9198);
+        wide(check, "-b*-b", 10, 9198, 9253);
+        wide(check, "c*b", 9, -19, 10);
+        wide(check, "b*c", 9, -19, 10);
+        wide(check, "c*-b", 9, -10, 19);
+        wide(check, "-b*c", 9, -10, 19);
+        wide(check, "c*c", 6, -1, 1);
+        wide(check, "b/b", 7, 125, 132);
+        wide(check, "b/-b", 7, -132, -125);
+        wide(check, "-b/b", 7, -132, -125);
+        wide(check, "-b/-b", 7, 125, 132);
+        wide(check, "c/b", 7, -3, 2);
+        wide(check, "c/-b", 7, -2, 3);
+    }
+
+    private static void wide(Check check, String text, int step, long low, long high) {
+        later(check, 4, step, low, high, "1/3", "9*a", "b-3", text);
     }
 
     private static void quotients(Check check) {
