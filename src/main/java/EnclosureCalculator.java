@@ -16,6 +16,7 @@ public final class EnclosureCalculator {
     public static final int CLOSE = 5;
 
     private static final int NONE = -1;
+    private static final int NO_FAULT = 0;
     private static final int TEXT_LIMIT = 20;
     private static final int NAME_LIMIT = 8;
     private static final int PRECISION_LIMIT = 16;
@@ -66,7 +67,7 @@ public final class EnclosureCalculator {
         Reader reader = new Reader(text, textSize, named, store);
         int top = reader.readSum(0);
         int fault = faultOf(reader, top);
-        if (fault != NO_ANSWER) {
+        if (fault != NO_FAULT) {
             store.shrinkTo(before);
             return fault;
         }
@@ -197,7 +198,7 @@ public final class EnclosureCalculator {
         if (reader.metUnknownLetter()) {
             return UNKNOWN;
         }
-        return store.isOverfull() ? FULL : NO_ANSWER;
+        return store.isOverfull() ? FULL : NO_FAULT;
     }
 
     private int trySteps(int x, int y, int p, int fuel, boolean comparing) {
@@ -407,6 +408,7 @@ public final class EnclosureCalculator {
                 return NONE;
             }
             position++;
+            // The square serves 2 and 3, its own square 4 and 5; an odd power takes the base once more.
             int power = store.makeOfOne(Parts.SQUARE, base);
             if (exponent >= 4) {
                 power = store.makeOfOne(Parts.SQUARE, power);
@@ -471,6 +473,8 @@ public final class EnclosureCalculator {
         private static final int SPAN = 0;
         private static final int FALSE = 1;
         private static final int OPEN = 2;
+        // It keeps ends within 2^30 units at the finest step, so that what is made of two of them
+        // fits a long.
         private static final long END_LIMIT = 4096;
         // The highest bit of a root: what roots are taken of has fewer than 62 bits.
         private static final int ROOT_BIT = 30;
