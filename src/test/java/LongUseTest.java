@@ -18,8 +18,6 @@ public final class LongUseTest {
             x.compare(i % 8, (i + 3) % 8, i % 17, 1 + i % 20);
             Check.eraseText(x);
         }
-        x.clear();
-        check.due("cleared after many calls: define(0)", Check.define(x, 0, "1/7"), 3);
         check.end("LongUseTest");
     }
 

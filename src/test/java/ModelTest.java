@@ -2,6 +2,8 @@
 public final class ModelTest {
     private static final int RUNS = 2500;
     private static final int CALLS = 512;
+    // A text of 21 characters typed, a define between two lengths, twenty erased and a clear.
+    private static final int MOST_CALLS_AT_ONCE = 45;
     private static final int[] ODD_NUMBERS = {-1, 8, 17, 18, 19, 21, 64, Integer.MIN_VALUE, Integer.MAX_VALUE};
     private static final String CHARACTERS = "0123456789abcdefghr+-*/^() .@";
 
@@ -34,7 +36,7 @@ public final class ModelTest {
         calls = 0;
         real = new EnclosureCalculator();
         model = new Model();
-        while (calls < CALLS - 40) {
+        while (calls < CALLS - MOST_CALLS_AT_ONCE) {
             switch (below(12)) {
                 case 0, 1, 2, 3:
                     defineSomething();
