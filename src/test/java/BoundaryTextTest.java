@@ -222,6 +222,10 @@ public final class BoundaryTextTest {
             product.append("*2");
             quotient.append("/2");
         }
+        // The first term and the first factor are there always.
+        for (String text : new String[] {"+1", "*1", "/1", "1+*1", "1-/1", "(*1)", "r(+1)", "1**1", "1++1", "1*+1"}) {
+            notInTheGrammar(check, text);
+        }
     }
 
     /** "factor = any number of -, then: atom" */
